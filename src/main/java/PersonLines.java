@@ -25,6 +25,7 @@ public final class PersonLines {
     private static final int THOUSAND = 1000;
     private static final long BILLION = 1000000000L;
     private static final int SLEEP_ODDS = 20;
+    private static final long SEEDS = 2147483648L;
     private static final int FARE_ASKED = -2;
 
     private static final int CANNOT_STAND = 1;
@@ -492,7 +493,7 @@ public final class PersonLines {
     }
 
     private int draw(int n) {
-        drawn = (int) ((drawn * 1103515245L + 12345L) & Integer.MAX_VALUE);
+        drawn = (int) ((drawn * 1103515245L + 12345L) % SEEDS);
         return n > 0 ? drawn / 65536 % n : 0;
     }
 
@@ -547,7 +548,6 @@ public final class PersonLines {
             skipBlanks();
             for (int clause = 0; clause < MOST_LETTERS && place < length && faultKind == 0; clause++) {
                 readClause();
-                skipBlanks();
             }
             length = 0;
             return faultKind;
@@ -569,7 +569,7 @@ public final class PersonLines {
                 mark(ONE_TOO_MANY, place);
                 return;
             }
-            place++;
+            take('p');
             for (int q = 0; q < p; q++) {
                 if (q > 0 && !take(',')) {
                     return;
@@ -592,7 +592,7 @@ public final class PersonLines {
                 mark(ONE_TOO_MANY, place);
                 return;
             }
-            place++;
+            take('l');
             int fare = takeNumber(MOST_FARE);
             if (fare == NONE) {
                 return;
@@ -637,7 +637,6 @@ public final class PersonLines {
         }
 
         private boolean isNext(int letter) {
-            skipBlanks();
             return place < length && text[place] == letter;
         }
 
@@ -647,12 +646,12 @@ public final class PersonLines {
                 return false;
             }
             place++;
+            skipBlanks();
             return true;
         }
 
         /** A number of 0 to most; NONE: it has a fault, which is marked. */
         private int takeNumber(int most) {
-            skipBlanks();
             wordPlace = place;
             int value = 0;
             while (place < length && isFigure(text[place])) {
@@ -663,6 +662,7 @@ public final class PersonLines {
                 place++;
             }
             int figures = place - wordPlace;
+            skipBlanks();
             if (figures == 0) {
                 mark(CANNOT_STAND, wordPlace);
                 return NONE;
@@ -678,6 +678,7 @@ public final class PersonLines {
             return letter >= '0' && letter <= '9';
         }
 
+        /** Called behind each word, so that the place is always a word's, or the text's length. */
         private void skipBlanks() {
             while (place < length && text[place] == ' ') {
                 place++;
