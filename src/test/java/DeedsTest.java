@@ -10,6 +10,7 @@ public final class DeedsTest {
         die();
         drift();
         driftByHand();
+        driftToTheSixth();
         driftWithoutLines();
         undo();
         undoKeepsThirty();
@@ -197,6 +198,15 @@ public final class DeedsTest {
             Check.due("drifted rides", x.told(4), y.told(4));
             Check.due("drifted seed", x.seed(0), seed);
         }
+    }
+
+    private static void driftToTheSixth() {
+        PersonLines x = Check.town("p;p5;p5,9;p5,9,9;p5,9,9,9;p5,9,9,9,9;l1 0,1,2,3,4,5;");
+        x.seed(1);
+        Check.due("all but the last ride", x.drift(1), 5);
+        Check.due("0 came to 5", x.near(0, 5), 6);
+        Check.due("and met 4 there", x.near(0, 4), 6);
+        Check.due("nobody slept", x.told(7), 25 + 90 + 5);
     }
 
     private static void driftWithoutLines() {

@@ -11,6 +11,7 @@ public final class TextTest {
         wrongNumbers();
         tooMany();
         stopsTwice();
+        formerTexts();
         faultChangesNothing();
         townStartsAnew();
         told();
@@ -125,6 +126,7 @@ public final class TextTest {
         faulty("p;p0x;", 1, 4);
         faulty("p;p0;p1;", 1, 7);
         faulty("p;p0;p1 2;", 1, 8);
+        faulty("p;p0;p1 10;", 1, 8);
         faulty("p;p0;p1,;", 1, 8);
         faulty("p;p0;p,1;", 1, 6);
         faulty("p;p0;p1,2,3;", 1, 9);
@@ -136,6 +138,8 @@ public final class TextTest {
         faulty(TWO + "l0 0;", 1, 9);
         faulty(TWO + "l0 0", 1, 9);
         faulty(TWO + "l0 0 1;", 1, 10);
+        faulty(TWO + "l0 0 9;", 1, 10);
+        faulty(TWO + "l0 0 0;", 1, 10);
         faulty(TWO + "l0 0,;", 1, 10);
         faulty(TWO + "l0 0,1", 1, 11);
         faulty(TWO + "l0 0,1,;", 1, 12);
@@ -178,6 +182,33 @@ public final class TextTest {
         faulty(TWO + "l0 0,0;", 4, 10);
         faulty(TWO + "l0 1,0,001;", 4, 12);
         faulty(TWO + "l0 1,0,1x", 4, 12);
+    }
+
+    /** What was told ahead must not be read again behind the end of a shorter text. */
+    private static void formerTexts() {
+        PersonLines x = Check.town("p;p9;");
+        x.feed('p');
+        Check.due("no ';' is left", x.town(), -11);
+        Check.due("at the end", x.fault(), 1);
+        Check.feedAll(x, "p;p12;");
+        x.town();
+        Check.feedAll(x, "p;p1");
+        Check.due("no figure is left", x.town(), -11);
+        Check.due("at the end", x.fault(), 4);
+        Check.feedAll(x, " ".repeat(199) + "p");
+        Check.due("no letter behind 200", x.town(), -11);
+        Check.due("at the end", x.fault(), 200);
+        Check.feedAll(x, "p;" + " ".repeat(196) + "p9");
+        Check.due("a figure at the end of 200", x.town(), -11);
+        Check.due("at the end", x.fault(), 200);
+        PersonLines smaller = Check.town(Check.FOUR);
+        Check.feedAll(smaller, "p;p0;p9,9;l3 0,1;");
+        Check.due("a smaller town", smaller.town(), 3);
+        Check.due("line 1 is no more", smaller.lacks(0, 2, 0), Check.NONE);
+        Check.due("line 1 is no more", smaller.line(1, 0), Check.UNKNOWN);
+        Check.due("pairs of the smaller", smaller.told(6), 0);
+        Check.due("together in the smaller", smaller.told(7), 18);
+        Check.due("person 3 is no more", smaller.at(3), Check.UNKNOWN);
     }
 
     private static void faultChangesNothing() {

@@ -3,6 +3,8 @@ public final class TriedTest {
     public static void main(String[] args) {
         ways();
         firstLineIsLeast();
+        fromAGateItMayNotGoOnTo();
+        eightPersonsSixLines();
         reached();
         cuts();
         lacks();
@@ -49,6 +51,33 @@ public final class TriedTest {
         PersonLines y = Check.town("p;p9;p9,9;p9,9,9;l0 0,1;l0 1,2;l0 0,2;l0 2,3;");
         Check.due("two rides by 2, 3", y.ways(0, 3, 0), 2);
         Check.due("line 0 would need three", y.ways(0, 3, 1), 2);
+    }
+
+    /** Where one came asleep one may not have been able to go on to: that is not asked again. */
+    private static void fromAGateItMayNotGoOnTo() {
+        PersonLines x = Check.town("p;p0;p9,0;l3 0,1;l2 2,1,0;l0 1,2;l2 2,0,1;");
+        Check.due("asleep", x.sleep(2, 0), Check.NOT);
+        Check.due("asleep", x.sleep(2, 3), 1);
+        Check.due("on from there", x.ways(2, 0, 0), 1);
+        Check.due("by line 1", x.ways(2, 0, 1), 1);
+        Check.due("lacks nothing", x.lacks(2, 0, 0), 0);
+        Check.due("by line 1", x.lacks(2, 0, 1), 1);
+        Check.due("it is there", x.lacks(2, 1, 0), Check.NONE);
+        Check.due("by no line", x.lacks(2, 1, 1), Check.NONE);
+        Check.due("reached", x.reached(2), 7);
+    }
+
+    private static void eightPersonsSixLines() {
+        PersonLines x = Check.town("p;p9;p9,9;p9,9,9;p9,9,9,9;p9,9,9,9,9;p9,9,9,9,9,9;p9,9,9,9,9,9,9;"
+                + "l0 0,1;l0 1,2;l0 2,3,4;l1 4,5;l1 5,6;l1 6,0;");
+        Check.due("all but 7 reach each other, and 7 none", x.told(6), 42);
+        Check.due("one that ends in 7 would cut the ring", x.bestEnd(), 4201);
+        Check.due("lacks by the last", x.lacks(6, 0, 1), 5);
+        Check.due("no line goes", x.lacks(7, 0, 1), Check.NONE);
+        Check.due("ways", x.ways(0, 6, 0), 5);
+        Check.due("ways by the last", x.ways(6, 5, 1), 5);
+        Check.due("all are cuts", x.cuts(0, 6), 31);
+        Check.due("reached", x.reached(0), 127);
     }
 
     private static void reached() {
@@ -159,9 +188,10 @@ public final class TriedTest {
     private static void warm() {
         PersonLines x = Check.town(Check.FOUR);
         Check.due("warm", x.warm(), 8);
-        x.ride(0, 1, 1);
-        x.sleep(2, 2);
-        Check.due("from their own gates", Check.town(Check.FOUR).warm(), 8);
+        PersonLines away = Check.town("p;p0;l3 0,1;");
+        away.sleep(0, 0);
+        Check.due("from their own gates", away.warm(), 0);
+        Check.due("all six stops", Check.town("p;p5;p5,9;p5,9,9;p5,9,9,9;p5,9,9,9,9;l1 0,1,2,3,4,5;").warm(), 4);
         Check.due("none is visited", Check.town("p;p0;l1 0,1;").warm(), 0);
         Check.due("eight", Check.town("p;p1;l1 0,1;").warm(), 8);
         Check.due("none nearer", Check.town("p;p9;l1 0,1;").warm(), 0);
@@ -174,18 +204,16 @@ public final class TriedTest {
         Check.due("visits change as they get nearer", asRides.warm(), 10);
     }
 
-    /** Who comes farther by being nearer: the visits change as they go. */
+    /** Found by search; the last would have 101 mornings. */
     private static void warmStopsAt99() {
+        Check.due("98 mornings", Check.town("p;p7;p6,0;p0,0,4;p0,4,0,5;p9,0,5,1,7;p2,4,0,0,3,0;p0,5,3,7,0,0,0;"
+                + "l2 1,3,6,7,2,4;l3 0,2,7,4,1;l3 3,4,5,7,6,0;l3 5,2,6,1;l3 2,7,5,6;l1 7,1,4;").warm(), 98);
+        Check.due("99 at most", Check.town("p;p0;p0,0;p1,0,0;p3,2,1,0;p4,3,0,5,0;p0,9,3,0,2,0;p0,7,0,0,7,4,0;"
+                + "l3 6,2,7,5,0;l2 3,5,7,6,4;l2 7,0,5,2,6,3;l2 1,2,4,3,6,0;l3 4,5,7,6;l0 7,4,1,0,3,6;").warm(), 99);
         PersonLines x = Check.town("p;p0;p0,0;p0,0,0;p0,0,0,0;p0,0,0,0,0;p0,0,0,0,0,0;p0,0,0,0,0,0,0;"
                 + "l0 0,1;l0 2,1;l0 3,1;l0 4,1;l0 5,1;l0 6,1;");
         Check.due("all at once", x.warm(), 9);
         Check.due("nothing is changed", x.told(7), 0);
-        int most = 0;
-        java.util.Random random = new java.util.Random(19);
-        for (int i = 0; i < 2000; i++) {
-            most = Math.max(most, Check.town(RandomTown.sound(random)).warm());
-        }
-        Check.holds("never above 99, at times above 9", most <= 99 && most > 9);
     }
 
     private static void names() {
