@@ -94,6 +94,12 @@ public final class TriedTest {
                 + "l0 5,6;l0 4,5;l0 3,4;l0 2,3;l0 1,2;l0 0,1;");
         Check.due("by six rides", chain.reached(0), 127);
         Check.due("six rides", chain.ways(0, 6, 0), 6);
+        // Line 0 serves twice, as 0 may not go on past 5: the longest way that there can be.
+        PersonLines longest = Check.town("p;p9;p9,9;p9,9,9;p9,9,9,9;p0,9,9,9,9;p9,9,9,9,9,9;p9,9,9,9,9,9,9;"
+                + "l1 0,1,5,3,4;l0 1,2;l0 2,3;l0 4,5;l0 5,6;l0 6,7;");
+        Check.due("by seven rides", longest.reached(0), 255);
+        Check.due("seven rides", longest.ways(0, 7, 0), 7);
+        Check.due("every line is needed", longest.cuts(0, 7), 63);
     }
 
     private static void cuts() {
