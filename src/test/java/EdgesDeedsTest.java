@@ -151,7 +151,7 @@ public final class EdgesDeedsTest {
         PersonLines passed = Check.town("p;p4;p2,0;l3 0,1,2;");
         passed.die(1);
         Check.due("past the dead", passed.sleep(0, 0), 3);
-        PersonLines others = Check.town("p;p4;p2,6;p0,0,0;l3 0,1;l3 2,0;l3 3,2;");
+        PersonLines others = Check.town("p;p4;p2,6;p5,0,0;l3 0,1;l3 2,0;l3 3,2;");
         others.die(1);
         Check.due("by another line to another one", others.sleep(2, 1), 3);
         Check.due("at", others.at(2), 0);
