@@ -98,15 +98,26 @@ public final class FaceTest {
             Check.holds(dotted.group() + " is in the library", Arrays.asList("Math.max", "Math.min", "Integer.bitCount",
                     "System.arraycopy").contains(dotted.group()));
         }
-        int start = 0;
-        String[] lines = text.split("\n");
+        methodLengths(text.split("\n"));
+    }
+
+    private static void methodLengths(String[] lines) {
+        Pattern head = Pattern.compile("( {4}| {8})[A-Za-z].*\\) \\{");
+        int methods = 0;
         for (int i = 0; i < lines.length; i++) {
-            if (lines[i].matches(" {4,8}[a-z].*\\) \\{")) {
-                start = i;
+            java.util.regex.Matcher found = head.matcher(lines[i]);
+            // A statement of an outer method stands at the depth of an inner class's methods.
+            if (!found.matches() || lines[i].matches(" *(if|for|while|switch|do)\\b.*")) {
+                continue;
             }
-            Check.holds("line " + (i + 1) + " ends a short method", !lines[i].matches(" {4,8}\\}") || i - start < 60
-                    || lines[i].equals("    }"));
+            int end = i;
+            while (end < lines.length && !lines[end].equals(found.group(1) + "}")) {
+                end++;
+            }
+            methods++;
+            Check.holds("the method of line " + (i + 1) + " has at most sixty lines", end - i < 60);
         }
+        Check.holds("methods were found: " + methods, methods > 31);
     }
 
     /** What is made is made in the constructor; the calls make nothing. */
